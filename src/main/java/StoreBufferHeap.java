@@ -10,7 +10,7 @@ public final class StoreBufferHeap {
     /** There is none. */
     public static final int NONE = -1;
 
-    /** Told where NONE could be taken for a SERIAL that was SEEN, or means something else. */
+    /** Told where NONE means something else already. */
     private static final int NO_SUCH = -2;
     private static final int TOLD_NIL = -2;
 
@@ -32,6 +32,7 @@ public final class StoreBufferHeap {
     private static final int IMAGES = 3;
     private static final int MOST_FAIR = 200;
     private static final int MOST_ROW = 3;
+    private static final int MOST_ROWS = 8 * 8 * 8;
     private static final int COMMITS_FROM = 8;
 
     /** CELLS lie in one row: FIELDS first, then PHASE, MARK and COLOUR, then FLAGS. */
@@ -85,7 +86,7 @@ public final class StoreBufferHeap {
     private static final int FENCE = 11;
 
     private final Tape tape = new Tape();
-    private final Reader reader = new Reader();
+    private final Reader reader = new Reader(tape);
     private final Heap heap = new Heap();
     private final Search search = new Search();
     private final Explorer explorer = new Explorer();
@@ -142,7 +143,7 @@ public final class StoreBufferHeap {
             tape.size = 0;
             return NO_SUCH;
         }
-        int[] lines = reader.readScript(tape, heap.fieldCount);
+        int[] lines = reader.readScript(heap.fieldCount);
         tape.size = 0;
         if (tape.fault != 0) {
             return NONE;
@@ -291,7 +292,7 @@ public final class StoreBufferHeap {
 
     public int trial() {
         tape.clearFault();
-        Trial told = reader.readTrial(tape);
+        Trial told = reader.readTrial();
         tape.size = 0;
         if (told == null) {
             return NONE;
@@ -478,16 +479,20 @@ public final class StoreBufferHeap {
 
         private final int[] arguments = new int[3];
         private final int[] lines = new int[MOST_LINES * 4];
-        private Tape tape;
+        private final Tape tape;
         private int fieldCount;
         private int token;
         private int first;
         private int next;
         private int number;
 
+        Reader(Tape tape) {
+            this.tape = tape;
+        }
+
         /** The LINES, four numbers each; what they are is free if the tape has a FAULT then. */
-        int[] readScript(Tape from, int fields) {
-            open(from, fields);
+        int[] readScript(int fields) {
+            open(fields);
             int count = 0;
             for (int i = 0; i < MOST_BYTES && token != AT_END && tape.fault != FAULT_TEXT; i++) {
                 int start = first;
@@ -505,8 +510,8 @@ public final class StoreBufferHeap {
         }
 
         /** The TRIAL, or null with a FAULT. */
-        Trial readTrial(Tape from) {
-            open(from, 0);
+        Trial readTrial() {
+            open(0);
             Trial told = new Trial();
             if (!isWord("party")) {
                 blameText();
@@ -524,8 +529,7 @@ public final class StoreBufferHeap {
             return tape.fault == 0 ? told : null;
         }
 
-        private void open(Tape from, int fields) {
-            tape = from;
+        private void open(int fields) {
             fieldCount = fields;
             next = 0;
             advance();
@@ -971,13 +975,7 @@ public final class StoreBufferHeap {
 
         boolean isHeld(int reference) {
             int slot = reference & SLOT_MASK;
-            return !isFree(slot) && serials[slot] == reference >> SERIAL_SHIFT;
-        }
-
-        void countStray(int reference) {
-            if (!isHeld(reference)) {
-                stray++;
-            }
+            return (free & (1 << slot)) == 0 && serials[slot] == reference >> SERIAL_SHIFT;
         }
 
         int shade(int slot) {
@@ -1215,7 +1213,9 @@ public final class StoreBufferHeap {
             if (holder == NIL) {
                 return NIL;
             }
-            heap.countStray(holder);
+            if (!heap.isHeld(holder)) {
+                heap.stray++;
+            }
             return heap.look(thread, (holder & SLOT_MASK) * MOST_FIELDS + field);
         }
 
@@ -1433,37 +1433,44 @@ public final class StoreBufferHeap {
         }
 
         boolean isBlocked(Heap heap, int thread) {
-            known = NONE;
             tried[0].copyFrom(heap);
             return !tried[0].enter(thread);
         }
 
+        /** Goes through the rows from the least on; tried[i] is the HEAP after i ENTRIES. */
         void find(Heap heap, int n) {
-            if (known == n) {
+            if (known == n || !within(n, 0, MOST_ROW)) {
                 return;
             }
-            most = NONE;
-            tried[0].copyFrom(heap);
-            descend(0, n);
             known = n;
-        }
-
-        private void descend(int depth, int n) {
-            if (depth >= n || depth >= MOST_ROW) {
-                int lostNow = Integer.bitCount(Heap.lostOf(tried[depth].reach()));
-                if (lostNow > most) {
-                    most = lostNow;
+            most = NONE;
+            Arrays.fill(row, 0);
+            tried[0].copyFrom(heap);
+            int changed = 0;
+            for (int i = 0; i < MOST_ROWS && changed >= 0; i++) {
+                for (int k = changed; k < n; k++) {
+                    tried[k + 1].copyFrom(tried[k]);
+                    tried[k + 1].enter(row[k]);
+                }
+                int lostThen = Integer.bitCount(Heap.lostOf(tried[n].reach()));
+                if (lostThen > most) {
+                    most = lostThen;
                     System.arraycopy(row, 0, best, 0, MOST_ROW);
                 }
-                return;
+                changed = nextRow(n, heap.mutatorCount);
             }
-            int threads = tried[depth].mutatorCount + 1;
-            for (int i = 0; i < 2 * threads; i++) {
-                row[depth] = i < threads ? i : COMMITS_FROM + i - threads;
-                tried[depth + 1].copyFrom(tried[depth]);
-                tried[depth + 1].enter(row[depth]);
-                descend(depth + 1, n);
+        }
+
+        /** Where the next row begins to be another one; NONE behind the last row. */
+        private int nextRow(int n, int lastThread) {
+            for (int k = n - 1; k >= 0; k--) {
+                if (row[k] < COMMITS_FROM + lastThread) {
+                    row[k] = row[k] == lastThread ? COMMITS_FROM : row[k] + 1;
+                    return k;
+                }
+                row[k] = 0;
             }
+            return NONE;
         }
     }
 
