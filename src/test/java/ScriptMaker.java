@@ -10,7 +10,7 @@ final class ScriptMaker {
     }
 
     /** Takes the end of a chain out of it and puts it back, for ever: what barriers are for. */
-    private static String mover(Random random, int fields) {
+    static String mover(Random random, int fields) {
         int f = random.nextInt(fields);
         String hung = random.nextBoolean() ? "new 2;store 1 " + f + " 2;drop 2;" : "";
         String made = "new 0;new 1;" + hung + "store 0 " + f + " 1;drop 1;";
