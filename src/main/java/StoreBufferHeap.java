@@ -1057,10 +1057,9 @@ public final class StoreBufferHeap {
     /** A MUTATOR: its SCRIPT, its ROOTS, and how far it is with a store or an answer. */
     static final class Mutator {
         private static final int BETWEEN = 0;
-        private static final int OLD_WAITS = 1;
-        private static final int ADDED_WAITS = 2;
-        private static final int WRITE_WAITS = 3;
-        private static final int ANSWERS = 4;
+        private static final int BARRIERS_WAIT = 1;
+        private static final int WRITE_WAITS = 2;
+        private static final int ANSWERS = 3;
 
         private final int thread;
         private final int[] noLines = new int[0];
@@ -1225,7 +1224,7 @@ public final class StoreBufferHeap {
                 return true;
             }
             old = fieldRead(heap, holder, field);
-            stage = OLD_WAITS;
+            stage = BARRIERS_WAIT;
             return true;
         }
 
@@ -1235,13 +1234,12 @@ public final class StoreBufferHeap {
                 return heap.goOnMarking(thread);
             }
             int added = registers[argument(3)];
-            if (stage == OLD_WAITS && old != NIL && (heap.left & LEFT_DELETION) == 0) {
-                int reference = old;
+            int deleted = old;
+            if (deleted != NIL && (heap.left & LEFT_DELETION) == 0) {
                 old = NIL;
-                stage = ADDED_WAITS;
-                return heap.beginMark(thread, reference);
+                return heap.beginMark(thread, deleted);
             }
-            if (stage != WRITE_WAITS && added != NIL && (heap.left & LEFT_INSERTION) == 0) {
+            if (stage == BARRIERS_WAIT && added != NIL && (heap.left & LEFT_INSERTION) == 0) {
                 old = NIL;
                 stage = WRITE_WAITS;
                 return heap.beginMark(thread, added);

@@ -12,6 +12,8 @@ public final class ReachPromisesTest {
         seenKeepsThirtyTwo();
         worstLooksAhead();
         worstIsTheLeastRow();
+        worstMayNeedACommit();
+        worstIsOfNow();
         nothingIsLostWithAll();
         Check.end();
     }
@@ -147,6 +149,17 @@ public final class ReachPromisesTest {
         Check.same("it waits", other.harm(), -1);
         other.does(9);
         Check.same("a black one holds a white one", other.harm(), 2);
+        StoreBufferHeap third = new StoreBufferHeap();
+        third.heap(1, 1, 3, 3);
+        third.leave(3);
+        Check.script(third, 1, "new 0;new 1;new 2;store 2 1 0;drop 0;load 3 2 1;store 1 2 3;");
+        Check.same("2 holds 0", Check.run(third, "11111b1"), 7);
+        Check.same("up to roots", Check.run(third, "0100a0100a0100a0a0100"), 21);
+        Check.same("roots 1 and 2", Check.run(third, "11111110"), 8);
+        Check.same("1 is scanned", Check.run(third, "0000"), 4);
+        Check.same("1 gets 0", Check.run(third, "111b"), 4);
+        Check.same("the first of all is white", third.colour(0), 1);
+        Check.same("100 * SLOT and FIELD", third.harm(), 102);
     }
 
     private static void seenKeepsThirtyTwo() {
@@ -224,6 +237,51 @@ public final class ReachPromisesTest {
         }
         heap.does(1);
         Check.same("let go: none can be lost", heap.worst(3, 0), 0);
+    }
+
+    /** Without FENCES a write of COLOUR waits till the sweep, and new OBJECTS are white. */
+    private static StoreBufferHeap colourWaits() {
+        StoreBufferHeap heap = new StoreBufferHeap();
+        heap.leave(4);
+        Check.same("up to roots", Check.run(heap, "0100 010a0 010a0 a0 010 010"), 21);
+        Check.same("COLOUR waits", heap.write(0, 0, 0), 5);
+        Check.script(heap, 1, "new 0;see 0;");
+        Check.same("made white", Check.run(heap, "1"), 1);
+        Check.same("made white", heap.colour(0), 1);
+        Check.same("no work", Check.run(heap, "010"), 3);
+        Check.same("the buffer is full", heap.about(0, 3), 1);
+        return heap;
+    }
+
+    private static void worstMayNeedACommit() {
+        StoreBufferHeap heap = colourWaits();
+        Check.same("two are too few", heap.worst(2, 0), 0);
+        int[] due = {1, 8, 0, 0};
+        for (int what = 0; what <= 3; what++) {
+            Check.same("worst(3, " + what + ")", heap.worst(3, what), due[what]);
+        }
+        Check.same("the least row of two", heap.worst(2, 1), 0);
+        Check.same("the least row of two", heap.worst(2, 2), 0);
+    }
+
+    /** What was found before a call that changes the HEAP is not told after it. */
+    private static void worstIsOfNow() {
+        StoreBufferHeap heap = colourWaits();
+        Check.same("none yet", heap.worst(0, 0), 0);
+        Check.same("done", Check.run(heap, "a00"), 3);
+        Check.same("lost after run", heap.worst(0, 0), 1);
+        heap.image(1);
+        heap.heap(1, 1, 1, 1);
+        Check.same("none after heap", heap.worst(0, 0), 0);
+        heap.again(1);
+        Check.same("lost after again", heap.worst(0, 0), 1);
+        Check.script(heap, 1, "drop 0;");
+        heap.does(1);
+        Check.same("none after does", heap.worst(0, 0), 0);
+        StoreBufferHeap other = colourWaits();
+        Check.same("none yet", other.worst(0, 0), 0);
+        other.fair(3);
+        Check.same("lost after fair", other.worst(0, 0), 1);
     }
 
     /** Longer rows than the other runs, with nothing left away. */

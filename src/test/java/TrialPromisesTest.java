@@ -57,6 +57,8 @@ public final class TrialPromisesTest {
                 heap.outcome(sort, k), due[k]);
         }
         Check.same("no more of '" + text + "'", heap.outcome(sort, due.length), -1);
+        Check.trial(heap, text);
+        Check.same("asked at once", heap.outcome(sort, 0), due.length == 0 ? -1 : due[0]);
     }
 
     private static void storeBuffering() {
