@@ -243,7 +243,7 @@ public final class ReachPromisesTest {
     private static StoreBufferHeap colourWaits() {
         StoreBufferHeap heap = new StoreBufferHeap();
         heap.leave(4);
-        Check.same("up to roots", Check.run(heap, "0100 010a0 010a0 a0 010 010"), 21);
+        Check.same("up to roots", Check.run(heap, "0100 010a0 010a0 a0 010 010"), 22);
         Check.same("COLOUR waits", heap.write(0, 0, 0), 5);
         Check.script(heap, 1, "new 0;see 0;");
         Check.same("made white", Check.run(heap, "1"), 1);

@@ -1,6 +1,6 @@
 import java.util.Random;
 
-/** Any arguments in any state: no call throws, and calls that answer NONE change nothing. */
+/** Any arguments in any state, beyond 512 calls too: no call throws. */
 public final class WildTest {
     private static final int[] EDGES = {Integer.MIN_VALUE, Integer.MIN_VALUE + 1, -100, -3, -2, -1,
         10, 11, 12, 13, 14, 31, 32, 64, 199, 200, 201, 399, 400, 401, Integer.MAX_VALUE - 1,
