@@ -4,6 +4,8 @@ import java.nio.charset.StandardCharsets;
 final class Check {
     private static int wrong = 0;
     private static int asked = 0;
+    private static String sentence = "";
+    private static int askedOfSentence = 0;
 
     private Check() {
     }
@@ -13,8 +15,26 @@ final class Check {
         if (got != want) {
             wrong++;
             if (wrong <= 40) {
-                System.out.println(what + " answered " + got + ", due is " + want);
+                System.out.println(sentence + what + " answered " + got + ", due is " + want);
             }
+        }
+    }
+
+    static void sameText(String what, String got, String want) {
+        boolean alike = got.equals(want);
+        isTrue(alike ? what : what + ": " + got + ", due is " + want + ";", alike);
+    }
+
+    /** What follows looks at this sentence of the document, on both sides of its boundary. */
+    static void sentence(String told) {
+        closeSentence();
+        sentence = "[" + told + "] ";
+        askedOfSentence = asked;
+    }
+
+    private static void closeSentence() {
+        if (!sentence.isEmpty()) {
+            isTrue("looked at on both sides", asked - askedOfSentence >= 2);
         }
     }
 
@@ -32,6 +52,7 @@ final class Check {
 
     /** Ends the test: the exit code tells whether all answers were as due. */
     static void end() {
+        closeSentence();
         System.out.println(asked + " answers looked at, " + wrong + " not as due");
         if (wrong != 0 || asked == 0) {
             System.exit(1);
