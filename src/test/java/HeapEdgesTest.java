@@ -178,19 +178,30 @@ public final class HeapEdgesTest {
         String script = "new 0;new 1;store 0 1 1;store 1 0 0;load 1 0 1;store 0 1 3;see 0;drop 1;go 1;";
         for (int steps = 1; steps <= 150; steps++) {
             StoreBufferHeap heap = new StoreBufferHeap();
-            StoreBufferHeap fresh = new StoreBufferHeap();
             heap.heap(2, 2, 5, 2);
             Check.script(heap, 1, script);
             Check.script(heap, 2, script);
             Check.run(heap, "012112b2021ca".repeat(12).substring(0, steps));
-            Check.isTrue("anew", heap.heap(2, 2, 5, 2));
-            fresh.heap(2, 2, 5, 2);
-            Check.sameText("after " + steps, Told.ofHeap(heap), Told.ofHeap(fresh));
-            Check.script(heap, 1, script);
-            Check.script(fresh, 1, script);
-            Check.same("runs as a new one", heap.fair(45), fresh.fair(45));
-            Check.sameText("comes to the same", Told.ofHeap(heap), Told.ofHeap(fresh));
+            beginsAnew(heap, script);
         }
+        for (int turns = 1; turns <= 80; turns++) {
+            StoreBufferHeap heap = new StoreBufferHeap();
+            heap.heap(1, 2, 5, 2);
+            Check.script(heap, 1, script);
+            heap.fair(turns);
+            beginsAnew(heap, script);
+        }
+    }
+
+    private static void beginsAnew(StoreBufferHeap heap, String script) {
+        StoreBufferHeap fresh = new StoreBufferHeap();
+        Check.isTrue("anew", heap.heap(1, 2, 5, 2));
+        fresh.heap(1, 2, 5, 2);
+        Check.sameText("as a new one", Told.ofHeap(heap), Told.ofHeap(fresh));
+        Check.script(heap, 1, script);
+        Check.script(fresh, 1, script);
+        Check.same("runs as a new one", heap.fair(80), fresh.fair(80));
+        Check.sameText("comes to the same", Told.ofHeap(heap), Told.ofHeap(fresh));
     }
 
     private static void heapAnewAfterALoss() {

@@ -1,10 +1,18 @@
-/** Ways to a loss that several tests set out from. */
+/** HEAPS that several tests set out from, and schedules of which every ENTRY must be done. */
 final class Scenes {
     private Scenes() {
     }
 
     static void goes(StoreBufferHeap heap, String schedule) {
         Check.same("'" + schedule + "'", Check.run(heap, schedule), schedule.replace(" ", "").length());
+    }
+
+    /** Of one MUTATOR, with this SCRIPT. */
+    static StoreBufferHeap heapOf(int buffer, int slots, int fields, String script) {
+        StoreBufferHeap heap = new StoreBufferHeap();
+        heap.heap(1, buffer, slots, fields);
+        Check.isTrue("'" + script + "'", Check.script(heap, 1, script) >= 0);
+        return heap;
     }
 
     /**
@@ -28,8 +36,7 @@ final class Scenes {
 
     /** Without FENCES: SLOT 0 is in WORK of MUTATOR 1, and its FLAG is not MARK. */
     static StoreBufferHeap inWorkAndWhite() {
-        StoreBufferHeap heap = new StoreBufferHeap();
-        heap.heap(1, 4, 1, 1);
+        StoreBufferHeap heap = heapOf(4, 1, 1, "");
         heap.leave(4);
         goes(heap, "0100a 0100a 0100a 0 010 010 010 00");
         Check.script(heap, 1, "new 0;store 0 0 0;");
