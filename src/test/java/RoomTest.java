@@ -6,6 +6,9 @@ public final class RoomTest {
         + "party;swap 2 3 0;swap 2 3 1;put 2 2;party;swap 2 0 0;swap 2 0 1;put 2 0;";
     /** 7.3 million numbers of 4 bytes; half of it is taken as the limit. */
     private static final long MOST_BYTES = 7_300_000L * 4 / 2;
+    private static final long MOST_OBJECTS = 600_000;
+    /** No object of Java's takes less, so that bytes bound the number of objects too. */
+    private static final long LEAST_BYTES_OF_AN_OBJECT = 16;
 
     public static void main(String[] args) {
         spends("new objects", () -> {
@@ -28,6 +31,7 @@ public final class RoomTest {
         long spent = threads.getCurrentThreadAllocatedBytes() - before;
         System.out.println(what + ": " + spent + " bytes");
         Check.isTrue(what + " spend " + spent + " bytes", spent < MOST_BYTES);
+        Check.isTrue(what + " make too many objects", spent / LEAST_BYTES_OF_AN_OBJECT < MOST_OBJECTS);
     }
 
     private static void trials() {
